@@ -25,6 +25,8 @@ public final class BribedClerks {
     private static final int IN_TURN = 0;
     private static final int BY_BOUNDS = 1;
     private static final int BY_REST = 2;
+    // Each way with and without looking up.
+    private static final int READINGS = 6;
     private static final int ALL_ENTRIES = LISTS * LIST_ROOM;
     private static final int LOOK_UP_COST = 3;
 
@@ -461,12 +463,12 @@ public final class BribedClerks {
             return NOT_POSSIBLE;
         }
         int best = 0;
-        int bestCost = Integer.MAX_VALUE;
-        for (int number = 0; number <= 2 * BY_REST + 1; number++) {
+        int bestCost = 0;
+        for (int number = 0; number < READINGS; number++) {
             rehearsal.start(now.office, number >> 1, (number & 1) == 1);
             rehearsal.goOn(now.office, ALL_ENTRIES);
             int cost = rehearsal.cost();
-            if (cost < bestCost) {
+            if (number == 0 || cost < bestCost) {
                 best = number;
                 bestCost = cost;
             }
@@ -805,10 +807,12 @@ public final class BribedClerks {
                 seenSize++;
             }
             learn(office, listRead, document);
-            for (int list = 0; isNew && looksUp && list < LISTS; list++) {
-                if (list != listRead && office.isAsked(list)) {
-                    put(lookUps, list, at(lookUps, list) + 1);
-                    learn(office, list, document);
+            if (isNew && looksUp) {
+                for (int list = 0; list < LISTS; list++) {
+                    if (list != listRead && office.isAsked(list)) {
+                        put(lookUps, list, at(lookUps, list) + 1);
+                        learn(office, list, document);
+                    }
                 }
             }
             moveAhead(document);

@@ -9,6 +9,9 @@ final class AllTests {
         TextsTest.run();
         HistoryTest.run();
         TellsTest.run();
+        ModelTest.run();
+        RoomTest.run();
+        LanguageTest.run(args[0]);
         if (!Check.allPassed()) {
             System.exit(1);
         }

@@ -13,6 +13,7 @@ final class HistoryTest {
         keepAndRestore();
         restoreIsAnAct();
         snapshotOfReading();
+        allOfReadingComesBack();
     }
 
     private static void undo() {
@@ -152,6 +153,55 @@ final class HistoryTest {
         Check.typeText(x, "abc");
         Check.due("restore", x.restore(), 0);
         Check.due("the text stays", x.count(9), 3);
+    }
+
+    private static void allOfReadingComesBack() {
+        Check.promise("15 undo, 17 restore of all of a reading");
+        BribedClerks x = Check.office(new int[][] {
+            {0, 7, 95}, {0, 1, 90}, {0, 2, 80}, {0, 3, 70}, {0, 4, 60}, {0, 5, 50},
+            {1, 3, 99}, {1, 2, 98}, {1, 5, 97}, {2, 4, 30}, {2, 1, 20}});
+        for (int list = 0; list < 3; list++) {
+            x.weight(list, list + 1);
+        }
+        x.bribe(1, 90);
+        x.delete(1);
+        x.begin(2, true);
+        x.step(3);
+        int[] before = answers(x);
+        x.keep();
+        for (int round = 0; round < 2; round++) {
+            x.end();
+            x.begin(0, false);
+            x.step(9);
+            int back = round == 0 ? x.restore() + x.count(8) : x.undo() + x.undo() + x.undo();
+            Check.due("goes back", back, round == 0 ? 15 : 6);
+            int[] after = answers(x);
+            for (int i = 0; i < before.length; i++) {
+                Check.due("answer " + i, after[i], before[i]);
+            }
+        }
+        Check.due("goes on by the same way", x.step(1), 1);
+        Check.due("and looks up", x.reading(2), 6);
+    }
+
+    private static int[] answers(BribedClerks x) {
+        int[] answers = new int[13 + 15 + 40 + 3];
+        int filled = 0;
+        for (int what = 0; what < 13; what++) {
+            answers[filled++] = x.reading(what);
+        }
+        for (int what = 0; what < 5; what++) {
+            for (int list = 0; list < 3; list++) {
+                answers[filled++] = x.clerk(list, what);
+            }
+            for (int document = 0; document < 8; document++) {
+                answers[filled++] = x.seen(document, what);
+            }
+        }
+        for (int place = 0; place < 3; place++) {
+            answers[filled++] = x.told(place);
+        }
+        return answers;
     }
 
     private static void snapshotOfReading() {

@@ -377,6 +377,9 @@ final class ReadingsTest {
         dueAll("seen 2", seen(x, 2), 90, 90, 3, 0, 2);
         Check.due("looked up", x.clerk(1, 4), 1);
         Check.due("end", x.end(), 1);
+        x.begin(0, true);
+        Check.due("wasted, anew", x.reading(1), 0);
+        Check.due("caught, anew", x.reading(10), 0);
     }
 
     private static void tiesOfHighValues() {
@@ -528,6 +531,15 @@ final class ReadingsTest {
         look.want(1);
         Check.due("way 0 with look-ups", look.trial(0, true, 1), 4);
         Check.due("looking up", look.cheapest(), 1);
+        BribedClerks rest = Check.office(new int[][] {
+            {0, 2, 60}, {0, 3, 59}, {0, 4, 58}, {0, 5, 57}, {0, 6, 56}, {0, 7, 55}, {0, 1, 40},
+            {2, 1, 50}, {2, 9, 1}});
+        rest.weight(0, 1);
+        rest.weight(2, 1);
+        rest.want(1);
+        Check.due("way 0 with look-ups", rest.trial(0, true, 1), 8);
+        Check.due("way 2 with look-ups", rest.trial(2, true, 1), 4);
+        Check.due("by the rest, looking up", rest.cheapest(), 5);
         Check.due("also while a reading is on", look.begin(0, false) + look.cheapest(), 1);
     }
 

@@ -12,6 +12,7 @@ final class TellsTest {
         entry();
         document();
         wanted();
+        wantedOfSmallValues();
         wantedOfTies();
         count();
     }
@@ -108,6 +109,22 @@ final class TellsTest {
         x.delete(12);
         Check.due("deleted", x.wanted(1), 11);
         Check.due("wanted in all", x.count(4), 3);
+    }
+
+    private static void wantedOfSmallValues() {
+        Check.promise("21 wanted, values of 1 and 0");
+        BribedClerks x = Check.office(new int[][] {{5, 0, 1}, {5, 58, 1}, {5, 59, 1}, {4, 1, 5}});
+        x.weight(5, 1);
+        Check.due("bits", x.document(0, 2), 32);
+        Check.due("wanted", x.wanted(0), 0);
+        Check.due("wanted in all", x.count(4), 3);
+        x.delete(0);
+        Check.due("wanted", x.wanted(0), 58);
+        Check.due("place", x.document(59, 3), 1);
+        Check.due("wanted in all", x.count(4), 2);
+        x.weight(5, 0);
+        Check.due("no question", x.wanted(0), NONE);
+        Check.due("wanted in all", x.count(4), 0);
     }
 
     private static void wantedOfTies() {

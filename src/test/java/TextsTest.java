@@ -111,7 +111,8 @@ final class TextsTest {
         Check.promise("14 faults of words");
         BribedClerks x = new BribedClerks();
         String[] noWords = {"", "a", "ad", "addd", "Add 0 1 2", " add 0 1 2", "undo", "wants 3",
-            "wan", "0", "keep", "begin 0", "weigh 0 1", "add\u00e9 0", "delet 1", "bringt 1"};
+            "wan", "0", "keep", "begin 0", "weigh 0 1", "add\u00e9 0", "delet 1", "bringt 1", "wantz 1",
+            "xdd 0 1 2", "waxt 3", "wanx 3"};
         for (String text : noWords) {
             Check.duePerform(x, text, text.equals("add\u00e9 0") ? -103 : -100);
         }
