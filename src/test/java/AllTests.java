@@ -9,6 +9,13 @@ final class AllTests {
         TextsTest.run();
         HistoryTest.run();
         TellsTest.run();
+        Place.load(args[1]);
+        ListBoundariesTest.run();
+        ReadingBoundariesTest.run();
+        TextBoundariesTest.run();
+        HistoryBoundariesTest.run();
+        TellBoundariesTest.run();
+        Place.allNamed();
         ModelTest.run();
         RoomTest.run();
         LanguageTest.run(args[0]);

@@ -29,6 +29,21 @@ final class Check {
         }
     }
 
+    /** Checks that each of these calls answers the same. */
+    static void each(String calls, long want, long... got) {
+        for (int i = 0; i < got.length; i++) {
+            due(calls + ", number " + i, got[i], want);
+        }
+    }
+
+    /** Checks a row of answers. */
+    static void row(String calls, int[] got, int... want) {
+        due(calls + ", how many", got.length, want.length);
+        for (int i = 0; i < Math.min(got.length, want.length); i++) {
+            due(calls + ", number " + i, got[i], want[i]);
+        }
+    }
+
     static boolean allPassed() {
         System.out.println(passed + " passed, " + failed + " failed");
         return failed == 0;
