@@ -191,6 +191,7 @@ final class HistoryBoundariesTest {
 
     private static void runState() {
         stateIsEverything();
+        stateGoesOnAsItWould();
         stateIsNotText();
         stateIsNotHistory();
         stateIsNotSnapshot();
@@ -215,6 +216,31 @@ final class HistoryBoundariesTest {
         x.step(3);
         x.restore();
         kept.dueAgain("restored", Answers.of(x));
+    }
+
+    private static void stateGoesOnAsItWould() {
+        Place.in("HISTORY", "A state is everything but the text");
+        for (int way = 0; way < 3; way++) {
+            BribedClerks x = Check.office(new int[][] {{0, 1, 90}, {0, 2, 80}, {0, 3, 70}, {0, 4, 60},
+                {1, 1, 50}, {1, 5, 40}, {1, 6, 30}, {3, 7, 95}, {3, 2, 10}});
+            x.weight(0, 1);
+            x.weight(1, 2);
+            x.weight(3, 1);
+            x.delete(1);
+            x.want(10);
+            x.begin(way, true);
+            x.step(3);
+            x.keep();
+            x.step(240);
+            Answers whole = Answers.of(x);
+            x.end();
+            x.begin((way + 1) % 3, false);
+            x.step(1);
+            x.restore();
+            Check.due("steps, by the way " + way, x.reading(0), 3);
+            x.step(240);
+            whole.dueAgain("to the end, by the way " + way, Answers.of(x));
+        }
     }
 
     private static void stateIsNotText() {

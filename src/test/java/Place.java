@@ -20,7 +20,7 @@ final class Place {
         "A reading goes on in steps",
         "Errors are reported by the constants below",
         "Bribes the clerk of a list", "Sets the weight of a list", "Deletes a document",
-        "Sets how many documents the question wants", "Begins a reading", "Drops an entry of a list",
+        "Sets how many documents the question wants", "Drops an entry of a list",
         "- `list`: a list", "- `document`: a document", "- `looksUp`: whether it looks up",
         "Returns the number", "Returns the document");
     private static final Set<String> PLAIN_SECTIONS = Set.of("", "The public face", "Not promised");

@@ -369,6 +369,13 @@ final class ReadingBoundariesTest {
         Check.due("not seen", x.seen(2, 0), NONE);
         x.step(1);
         Check.row("known in list 1", known(x, 2), 21, 21 + 20, 2);
+        x.end();
+        x.want(10);
+        x.begin(0, true);
+        x.step(2);
+        Check.row("known in both by a look-up", known(x, 2), 41, 41, 3);
+        x.step(1);
+        Check.row("known already when it is read", known(x, 2), 41, 41, 3);
     }
 
     private static void lookedUpOnce() {
@@ -657,10 +664,35 @@ final class ReadingBoundariesTest {
     // ---- promises 9 to 11
 
     private static void runBegin() {
+        beginAnew();
         beginWay();
         beginOverAtOnce();
         beginBadValue();
         beginNotPossible();
+    }
+
+    private static void beginAnew() {
+        Place.in("Promise 9", "Begins a reading");
+        BribedClerks x = office(new int[] {1, 2}, new int[][] {
+            {0, 1, 20}, {0, 2, 10}, {0, 3, 5}, {1, 2, 9}, {1, 1, 8}});
+        x.bribe(0, 4);
+        x.delete(1);
+        x.begin(2, true);
+        x.step(4);
+        Check.row("steps, wasted, look-ups, seen, caught", new int[] {
+            x.reading(0), x.reading(1), x.reading(2), x.reading(4), x.reading(10)}, 4, 2, 1, 1, 1);
+        x.end();
+        Check.due("begin", x.begin(0, false), 0);
+        for (int what = 0; what < 13; what++) {
+            int due = what == 8 ? 16 + 18 : what == 12 ? 1 : 0;
+            Check.due("reading " + what, x.reading(what), due);
+        }
+        Check.row("clerk 0", new int[] {x.clerk(0, 0), x.clerk(0, 1), x.clerk(0, 2), x.clerk(0, 3),
+            x.clerk(0, 4)}, 0, 16, 20, 0, 0);
+        Check.each("none is seen", NONE, x.seen(2, 0), x.seen(3, 2), x.told(0));
+        x.step(4);
+        Check.row("known behind four steps", known(x, 2), 28, 28, 3);
+        Check.due("its first step", x.seen(2, 4), 1);
     }
 
     private static void beginWay() {

@@ -40,6 +40,7 @@ final class TellBoundariesTest {
     private static void runList() {
         listNumbers();
         listGreatest();
+        listDeleted();
         listUnknown();
         listBadValue();
     }
@@ -73,6 +74,22 @@ final class TellBoundariesTest {
         Check.due("1 again", x.list(5, 3), 1);
         x.drop(5, 1);
         Check.due("without entries again", x.list(5, 3), 0);
+    }
+
+    private static void listDeleted() {
+        Place.in("Promise 18", "4 for entries of deleted documents in it");
+        BribedClerks x = office();
+        int[] due = {1, 2, 3};
+        Check.each("none is deleted", 0, x.list(0, 4), x.list(5, 4));
+        for (int number = 0; number < due.length; number++) {
+            x.delete(number + 1);
+            Check.due("deleted up to " + (number + 1), x.list(0, 4), due[number]);
+        }
+        Check.row("by list", new int[] {x.list(1, 4), x.list(2, 4), x.list(5, 4)}, 0, 2, 0);
+        x.drop(0, 2);
+        Check.due("dropped", x.list(0, 4), 2);
+        x.bring(1);
+        Check.due("brought back", x.list(0, 4), 1);
     }
 
     private static void listUnknown() {
@@ -497,6 +514,7 @@ final class TellBoundariesTest {
         readingNext();
         readingLastLow();
         readingNotWanted();
+        readingCaught();
         readingTellingLess();
         readingBadValue();
         readingNotPossible();
@@ -599,9 +617,39 @@ final class TellBoundariesTest {
             Check.due("behind " + steps + " steps", x.reading(11), due[steps]);
             x.step(1);
         }
+        BribedClerks two = Check.office(new int[][] {
+            {0, 1, 9}, {0, 2, 8}, {0, 3, 7}, {0, 4, 6}, {1, 4, 5}, {1, 3, 5}});
+        two.weight(0, 1);
+        two.weight(1, 1);
+        two.bribe(1, 500);
+        two.want(2);
+        two.begin(1, false);
+        two.step(240);
+        Check.row("told, of values 9 8 12 11", new int[] {two.told(0), two.told(1)}, 1, 2);
+        Check.due("none of them is wanted", two.reading(11), 2);
     }
 
     private static void readingTellingLess() {
+        Place.in("Promise 25", "12 for clerks who tell less than the bound as it is");
+        BribedClerks x = new BribedClerks();
+        for (int list = 0; list < 6; list++) {
+            x.add(list, list, 9);
+            x.add(list, 10 + list, 9);
+            x.bribe(list, list == 2 ? 0 : 1);
+            x.weight(list, list == 4 ? 0 : 1);
+        }
+        x.want(10);
+        x.begin(0, false);
+        int[] due = {4, 3, 2, 2, 1, 0, 0};
+        for (int steps = 0; steps < due.length; steps++) {
+            Check.due("behind " + steps + " steps", x.reading(12), due[steps]);
+            x.step(1);
+        }
+        x.step(240);
+        Check.due("behind all", x.reading(12), 0);
+    }
+
+    private static void readingCaught() {
         Place.in("Promise 25", "10 for clerks that were caught, 11");
         BribedClerks x = office();
         x.bribe(0, 1);
@@ -610,10 +658,8 @@ final class TellBoundariesTest {
         x.bribe(3, 1);
         x.begin(0, false);
         int[] caught = {0, 1, 2, 2};
-        int[] less = {2, 1, 0, 0};
         for (int steps = 0; steps < caught.length; steps++) {
             Check.due("caught behind " + steps + " steps", x.reading(10), caught[steps]);
-            Check.due("telling less behind " + steps + " steps", x.reading(12), less[steps]);
             x.step(1);
         }
     }
