@@ -506,13 +506,11 @@ final class HistoryBoundariesTest {
         Place.in("Promise 15", "Removes and restores the latest state of the history");
         BribedClerks x = office();
         x.begin(0, true);
-        Answers first = Answers.of(x);
         x.step(1);
         x.step(1);
         Check.due("undo", x.undo(), 3);
         Check.due("one step is left", x.reading(0), 1);
         Check.due("undo", x.undo(), 2);
-        Check.holds("another history", !first.isAs(Answers.of(x)));
         Check.row("as it began", new int[] {x.reading(0), x.reading(2), x.reading(4), x.clerk(0, 0),
             x.clerk(0, 1), x.clerk(0, 3), x.count(7)}, 0, 0, 0, 0, 70, 0, 0);
         Check.due("not seen", x.seen(1, 0), NONE);

@@ -240,6 +240,12 @@ final class ListBoundariesTest {
         Check.due("how many", x.count(4), 1);
         x.bring(0);
         Check.due("brought back", x.wanted(0), 0);
+        BribedClerks least = Check.office(new int[][] {{0, 0, 9}, {0, 58, 1}, {0, 59, 1}});
+        least.weight(0, 1);
+        least.delete(0);
+        least.delete(58);
+        Check.due("a value of 1 behind two deleted ones", least.wanted(0), 59);
+        Check.due("its place", least.document(59, 3), 0);
     }
 
     private static void greatestValues() {

@@ -432,6 +432,9 @@ final class ReadingBoundariesTest {
         Check.row("9 in list 0, 0 in list 2", known(x, 2), 9 + 21, 9 + 21, 7);
         x.step(1);
         Check.row("0 in list 0, 15 in list 1", known(x, 3), 1 + 15, 1 + 15, 7);
+        x.step(WHOLE);
+        Check.row("known once, also where all is read",
+            new int[] {x.seen(1, 0), x.seen(2, 0), x.seen(3, 0)}, 8991 + 18, 9 + 21, 1 + 15);
         x.end();
         x.begin(0, false);
         x.step(1);
@@ -581,6 +584,11 @@ final class ReadingBoundariesTest {
         all.want(2);
         all.begin(0, false);
         Check.due("two of two", all.step(WHOLE), 2);
+        all.end();
+        all.delete(2);
+        all.delete(3);
+        all.begin(0, false);
+        Check.due("one of two, and none is left to be told", all.step(WHOLE), 3);
     }
 
     private static void overIfBoundsAreLess() {
@@ -891,9 +899,9 @@ final class ReadingBoundariesTest {
 
     private static void endTold() {
         Place.in("Promise 11", "Returns the number of documents that are told");
-        BribedClerks x = office(new int[] {1}, new int[][] {{0, 1, 5}, {0, 2, 4}, {0, 3, 3}, {0, 4, 2}});
+        BribedClerks x = office(new int[] {1}, new int[][] {{0, 1, 5}, {0, 2, 5}, {0, 3, 5}, {0, 4, 5}});
         x.want(2);
-        int[] due = {0, 1, 2, 2};
+        int[] due = {0, 1, 2, 2, 2};
         for (int steps = 0; steps < due.length; steps++) {
             x.begin(0, false);
             if (steps > 0) {

@@ -31,44 +31,6 @@ final class ReadingsTest {
         endAndBeginAgain();
     }
 
-    private static void dueAll(String name, int[] got, int... want) {
-        for (int i = 0; i < want.length; i++) {
-            Check.due(name + " " + i, got[i], want[i]);
-        }
-    }
-
-    private static int[] reading(BribedClerks x) {
-        int[] answers = new int[13];
-        for (int what = 0; what < 13; what++) {
-            answers[what] = x.reading(what);
-        }
-        return answers;
-    }
-
-    private static int[] clerk(BribedClerks x, int list) {
-        int[] answers = new int[5];
-        for (int what = 0; what < 5; what++) {
-            answers[what] = x.clerk(list, what);
-        }
-        return answers;
-    }
-
-    private static int[] seen(BribedClerks x, int document) {
-        int[] answers = new int[5];
-        for (int what = 0; what < 5; what++) {
-            answers[what] = x.seen(document, what);
-        }
-        return answers;
-    }
-
-    private static int[] trial(BribedClerks x, int way, boolean looksUp) {
-        int[] answers = new int[4];
-        for (int what = 0; what < 4; what++) {
-            answers[what] = x.trial(way, looksUp, what);
-        }
-        return answers;
-    }
-
     /** Three lists of the question, one of them empty, and one list that does not belong to it. */
     private static BribedClerks smallOffice() {
         BribedClerks x = Check.office(new int[][] {
@@ -148,8 +110,8 @@ final class ReadingsTest {
         BribedClerks x = Check.office(new int[][] {{1, 1, 5}});
         x.weight(0, 4);
         Check.due("begin", x.begin(0, true), 1);
-        dueAll("reading", reading(x), 0, 0, 0, 0, 0, 0, 1, NONE, 0, 0, 0, 0, 0);
-        dueAll("clerk", clerk(x, 0), 0, 0, 0, 0, 0);
+        Check.row("reading", Answers.reading(x), 0, 0, 0, 0, 0, 0, 1, NONE, 0, 0, 0, 0, 0);
+        Check.row("clerk", Answers.clerk(x, 0), 0, 0, 0, 0, 0);
         Check.due("told", x.told(0), NONE);
         Check.due("step", x.step(1), NONE);
         Check.due("trial", x.trial(0, true, 0), 0);
@@ -162,32 +124,32 @@ final class ReadingsTest {
         Check.promise("9, 10, 22 to 25, way 0");
         BribedClerks x = smallOffice();
         Check.due("begin", x.begin(0, false), 0);
-        dueAll("reading", reading(x), 0, 0, 0, 0, 0, 0, 0, 0, 190, 0, 0, 0, 0);
-        dueAll("clerk 0", clerk(x, 0), 0, 50, 50, 0, 0);
-        dueAll("clerk 2", clerk(x, 2), 0, 0, 0, 0, 0);
+        Check.row("reading", Answers.reading(x), 0, 0, 0, 0, 0, 0, 0, 0, 190, 0, 0, 0, 0);
+        Check.row("clerk 0", Answers.clerk(x, 0), 0, 50, 50, 0, 0);
+        Check.row("clerk 2", Answers.clerk(x, 2), 0, 0, 0, 0, 0);
         Check.due("step", x.step(1), 1);
-        dueAll("reading", reading(x), 1, 0, 0, 1, 1, 1, 0, 1, 170, 100, 0, 1, 0);
-        dueAll("seen 1", seen(x, 1), 100, 190, 5, 0, 0);
-        dueAll("clerk 0", clerk(x, 0), 1, 40, 40, 0, 0);
+        Check.row("reading", Answers.reading(x), 1, 0, 0, 1, 1, 1, 0, 1, 170, 100, 0, 1, 0);
+        Check.row("seen 1", Answers.seen(x, 1), 100, 190, 5, 0, 0);
+        Check.row("clerk 0", Answers.clerk(x, 0), 1, 40, 40, 0, 0);
         Check.due("told", x.told(0), 1);
         Check.due("step", x.step(1), 1);
-        dueAll("reading", reading(x), 2, 0, 0, 2, 2, 1, 0, 0, 160, 100, 0, 1, 0);
-        dueAll("seen 1", seen(x, 1), 100, 180, 5, 0, 0);
-        dueAll("seen 2", seen(x, 2), 90, 170, 6, 1, 1);
+        Check.row("reading", Answers.reading(x), 2, 0, 0, 2, 2, 1, 0, 0, 160, 100, 0, 1, 0);
+        Check.row("seen 1", Answers.seen(x, 1), 100, 180, 5, 0, 0);
+        Check.row("seen 2", Answers.seen(x, 2), 90, 170, 6, 1, 1);
         Check.due("step", x.step(1), 1);
-        dueAll("reading", reading(x), 3, 0, 0, 3, 2, 1, 0, 1, 140, 170, 0, 0, 0);
-        dueAll("seen 1", seen(x, 1), 100, 180, 5, 1, 0);
-        dueAll("seen 2", seen(x, 2), 170, 170, 7, 0, 1);
+        Check.row("reading", Answers.reading(x), 3, 0, 0, 3, 2, 1, 0, 1, 140, 170, 0, 0, 0);
+        Check.row("seen 1", Answers.seen(x, 1), 100, 180, 5, 1, 0);
+        Check.row("seen 2", Answers.seen(x, 2), 170, 170, 7, 0, 1);
         Check.due("told", x.told(0), 2);
         Check.due("step, no more than are needed", x.step(240), 1);
-        dueAll("reading", reading(x), 4, 0, 0, 4, 3, 1, 1, NONE, 70, 170, 0, 0, 0);
-        dueAll("seen 1", seen(x, 1), 100, 110, 5, 1, 0);
-        dueAll("seen 4", seen(x, 4), 80, 140, 6, 2, 3);
-        dueAll("seen 3", seen(x, 3), NONE, NONE, NONE, NONE, NONE);
-        dueAll("clerk 1", clerk(x, 1), 2, 10, 10, 0, 0);
+        Check.row("reading", Answers.reading(x), 4, 0, 0, 4, 3, 1, 1, NONE, 70, 170, 0, 0, 0);
+        Check.row("seen 1", Answers.seen(x, 1), 100, 110, 5, 1, 0);
+        Check.row("seen 4", Answers.seen(x, 4), 80, 140, 6, 2, 3);
+        Check.row("seen 3", Answers.seen(x, 3), NONE, NONE, NONE, NONE, NONE);
+        Check.row("clerk 1", Answers.clerk(x, 1), 2, 10, 10, 0, 0);
         Check.due("told", x.told(1), NONE);
         Check.due("end", x.end(), 1);
-        dueAll("trial", trial(x, 0, false), 4, 4, 0, 0);
+        Check.row("trial", Answers.trial(x, 0, false), 4, 4, 0, 0);
     }
 
     private static void inTurnLookingUp() {
@@ -195,18 +157,18 @@ final class ReadingsTest {
         BribedClerks x = smallOffice();
         x.begin(0, true);
         x.step(1);
-        dueAll("reading", reading(x), 1, 0, 2, 7, 1, 1, 0, 1, 170, 110, 0, 1, 0);
-        dueAll("seen 1", seen(x, 1), 110, 110, 7, 0, 0);
-        dueAll("clerk 0", clerk(x, 0), 1, 40, 40, 0, 0);
-        dueAll("clerk 1", clerk(x, 1), 0, 90, 90, 0, 1);
-        dueAll("clerk 2", clerk(x, 2), 0, 0, 0, 0, 1);
-        dueAll("clerk 3", clerk(x, 3), NONE, NONE, NONE, NONE, NONE);
+        Check.row("reading", Answers.reading(x), 1, 0, 2, 7, 1, 1, 0, 1, 170, 110, 0, 1, 0);
+        Check.row("seen 1", Answers.seen(x, 1), 110, 110, 7, 0, 0);
+        Check.row("clerk 0", Answers.clerk(x, 0), 1, 40, 40, 0, 0);
+        Check.row("clerk 1", Answers.clerk(x, 1), 0, 90, 90, 0, 1);
+        Check.row("clerk 2", Answers.clerk(x, 2), 0, 0, 0, 0, 1);
+        Check.row("clerk 3", Answers.clerk(x, 3), NONE, NONE, NONE, NONE, NONE);
         Check.due("step", x.step(9), 1);
-        dueAll("reading", reading(x), 2, 0, 4, 14, 2, 1, 1, NONE, 160, 170, 0, 0, 0);
-        dueAll("clerk 0", clerk(x, 0), 1, 40, 40, 0, 1);
-        dueAll("clerk 2", clerk(x, 2), 0, 0, 0, 0, 2);
+        Check.row("reading", Answers.reading(x), 2, 0, 4, 14, 2, 1, 1, NONE, 160, 170, 0, 0, 0);
+        Check.row("clerk 0", Answers.clerk(x, 0), 1, 40, 40, 0, 1);
+        Check.row("clerk 2", Answers.clerk(x, 2), 0, 0, 0, 0, 2);
         Check.due("told", x.told(0), 2);
-        dueAll("trial", trial(x, 0, true), 2, 14, 0, 0);
+        Check.row("trial", Answers.trial(x, 0, true), 2, 14, 0, 0);
         x.undo();
         x.undo();
         x.undo();
@@ -214,7 +176,7 @@ final class ReadingsTest {
         x.begin(0, true);
         x.step(3);
         Check.due("a document is looked up once", x.reading(2), 4);
-        dueAll("seen 2", seen(x, 2), 170, 170, 7, 0, 1);
+        Check.row("seen 2", Answers.seen(x, 2), 170, 170, 7, 0, 1);
     }
 
     private static void byBounds() {
@@ -231,8 +193,8 @@ final class ReadingsTest {
         Check.due("step", x.step(240), 1);
         Check.due("over", x.reading(6), 1);
         x.end();
-        dueAll("trial", trial(x, 1, false), 4, 4, 0, 0);
-        dueAll("trial", trial(x, 1, true), 2, 14, 0, 0);
+        Check.row("trial", Answers.trial(x, 1, false), 4, 4, 0, 0);
+        Check.row("trial", Answers.trial(x, 1, true), 2, 14, 0, 0);
         x.bribe(0, 20);
         x.begin(1, false);
         Check.due("told bounds count", x.reading(7), 1);
@@ -253,12 +215,12 @@ final class ReadingsTest {
             Check.due("next", x.reading(7), lists[i]);
             Check.due("step", x.step(1), 1);
         }
-        dueAll("reading", reading(x), 5, 0, 0, 5, 4, 1, 1, NONE, 10, 170, 0, 0, 0);
-        dueAll("seen 4, in a list read to its end", seen(x, 4), 80, 80, 7, 2, 4);
-        dueAll("seen 1", seen(x, 1), 100, 110, 5, 1, 0);
-        dueAll("clerk 0", clerk(x, 0), 3, 0, 0, 0, 0);
-        dueAll("trial", trial(x, 2, false), 5, 5, 0, 0);
-        dueAll("trial", trial(x, 2, true), 2, 14, 0, 0);
+        Check.row("reading", Answers.reading(x), 5, 0, 0, 5, 4, 1, 1, NONE, 10, 170, 0, 0, 0);
+        Check.row("seen 4, in a list read to its end", Answers.seen(x, 4), 80, 80, 7, 2, 4);
+        Check.row("seen 1", Answers.seen(x, 1), 100, 110, 5, 1, 0);
+        Check.row("clerk 0", Answers.clerk(x, 0), 3, 0, 0, 0, 0);
+        Check.row("trial", Answers.trial(x, 2, false), 5, 5, 0, 0);
+        Check.row("trial", Answers.trial(x, 2, true), 2, 14, 0, 0);
         x.end();
         x.add(0, 20, 1);
         x.begin(2, false);
@@ -294,21 +256,21 @@ final class ReadingsTest {
         x.weight(0, 1);
         x.weight(1, 1);
         x.want(1);
-        dueAll("trial, honest", trial(x, 0, false), 4, 4, 0, 0);
+        Check.row("trial, honest", Answers.trial(x, 0, false), 4, 4, 0, 0);
         x.bribe(0, 500);
         x.bribe(1, 500);
         x.bribe(4, 500);
         x.begin(0, false);
-        dueAll("reading", reading(x), 0, 0, 0, 0, 0, 0, 0, 0, 0, 0, 0, 0, 2);
-        dueAll("clerk 0", clerk(x, 0), 0, 0, 100, 0, 0);
+        Check.row("reading", Answers.reading(x), 0, 0, 0, 0, 0, 0, 0, 0, 0, 0, 0, 0, 2);
+        Check.row("clerk 0", Answers.clerk(x, 0), 0, 0, 100, 0, 0);
         x.step(1);
-        dueAll("reading", reading(x), 1, 0, 0, 1, 1, 1, 1, NONE, 80, 100, 1, 1, 1);
-        dueAll("clerk 0", clerk(x, 0), 1, 80, 80, 1, 0);
-        dueAll("clerk 1", clerk(x, 1), 0, 0, 99, 0, 0);
-        dueAll("seen 1", seen(x, 1), 100, 100, 1, 0, 0);
+        Check.row("reading", Answers.reading(x), 1, 0, 0, 1, 1, 1, 1, NONE, 80, 100, 1, 1, 1);
+        Check.row("clerk 0", Answers.clerk(x, 0), 1, 80, 80, 1, 0);
+        Check.row("clerk 1", Answers.clerk(x, 1), 0, 0, 99, 0, 0);
+        Check.row("seen 1", Answers.seen(x, 1), 100, 100, 1, 0, 0);
         Check.due("caught in all", x.count(7), 1);
         Check.due("wanted", x.wanted(0), 3);
-        dueAll("trial", trial(x, 0, false), 1, 1, 1, 1);
+        Check.row("trial", Answers.trial(x, 0, false), 1, 1, 1, 1);
         Check.due("trials are not counted", x.count(7), 1);
         x.end();
         Check.due("caught in all, after the end", x.count(7), 1);
@@ -330,7 +292,7 @@ final class ReadingsTest {
         int[] bounds = {50, 40, 3, 0};
         for (int bound : bounds) {
             Check.due("step", x.step(1), 1);
-            dueAll("clerk", new int[] {x.clerk(2, 1), x.clerk(2, 2), x.clerk(2, 3)}, bound, bound, 1);
+            Check.row("clerk", new int[] {x.clerk(2, 1), x.clerk(2, 2), x.clerk(2, 3)}, bound, bound, 1);
             Check.due("caught", x.reading(10), 1);
             Check.due("caught in all", x.count(7), 1);
         }
@@ -366,15 +328,15 @@ final class ReadingsTest {
         x.delete(1);
         x.begin(0, true);
         x.step(1);
-        dueAll("reading", reading(x), 1, 1, 0, 1, 0, 0, 0, 1, 140, 0, 1, 0, 0);
-        dueAll("clerk 0", clerk(x, 0), 1, 80, 80, 1, 0);
+        Check.row("reading", Answers.reading(x), 1, 1, 0, 1, 0, 0, 0, 1, 140, 0, 1, 0, 0);
+        Check.row("clerk 0", Answers.clerk(x, 0), 1, 80, 80, 1, 0);
         Check.due("not seen", x.seen(1, 0), NONE);
         Check.due("not told", x.told(0), NONE);
         x.step(1);
         Check.due("wasted", x.reading(1), 2);
         x.step(1);
-        dueAll("reading", reading(x), 3, 2, 1, 6, 1, 1, 1, NONE, 80, 90, 1, 0, 0);
-        dueAll("seen 2", seen(x, 2), 90, 90, 3, 0, 2);
+        Check.row("reading", Answers.reading(x), 3, 2, 1, 6, 1, 1, 1, NONE, 80, 90, 1, 0, 0);
+        Check.row("seen 2", Answers.seen(x, 2), 90, 90, 3, 0, 2);
         Check.due("looked up", x.clerk(1, 4), 1);
         Check.due("end", x.end(), 1);
         x.begin(0, true);
@@ -491,14 +453,14 @@ final class ReadingsTest {
         x.bribe(0, 7);
         x.begin(0, false);
         x.step(2);
-        int[] before = reading(x);
+        int[] before = Answers.reading(x);
         int states = x.count(8);
         for (int way = 0; way < 3; way++) {
             x.trial(way, true, 0);
             x.trial(way, false, 3);
         }
         x.cheapest();
-        dueAll("reading", reading(x), before);
+        Check.row("reading", Answers.reading(x), before);
         Check.due("states", x.count(8), states);
         Check.due("begun", x.count(6), 1);
         Check.due("caught in all", x.count(7), 1);
@@ -554,7 +516,7 @@ final class ReadingsTest {
         Check.due("off", x.count(5), 0);
         Check.due("states", x.count(8), 4);
         x.begin(0, false);
-        dueAll("all anew", reading(x), 0, 0, 0, 0, 0, 0, 0, 0, 190, 0, 0, 0, 0);
+        Check.row("all anew", Answers.reading(x), 0, 0, 0, 0, 0, 0, 0, 0, 190, 0, 0, 0, 0);
         Check.due("no look-ups", x.clerk(1, 4), 0);
         Check.due("not seen", x.seen(1, 0), NONE);
         x.step(240);

@@ -285,30 +285,22 @@ final class TellBoundariesTest {
         clerkNone();
     }
 
-    private static int[] clerk(BribedClerks x, int list) {
-        int[] answers = new int[5];
-        for (int what = 0; what < 5; what++) {
-            answers[what] = x.clerk(list, what);
-        }
-        return answers;
-    }
-
     private static void clerkNumbers() {
         Place.in("Promise 22", "3 for whether the clerk was caught (1, otherwise 0), 4 for look-ups in it");
         BribedClerks x = office();
         x.bribe(0, 15);
         x.bribe(2, 55);
         x.begin(0, true);
-        Check.row("list 0", clerk(x, 0), 0, 75, 90, 0, 0);
-        Check.row("list 2", clerk(x, 2), 0, 5, 60, 0, 0);
-        Check.row("the empty list", clerk(x, 3), 0, 0, 0, 0, 0);
+        Check.row("list 0", Answers.clerk(x, 0), 0, 75, 90, 0, 0);
+        Check.row("list 2", Answers.clerk(x, 2), 0, 5, 60, 0, 0);
+        Check.row("the empty list", Answers.clerk(x, 3), 0, 0, 0, 0, 0);
         x.step(1);
-        Check.row("list 0 has read", clerk(x, 0), 1, 80, 80, 1, 0);
-        Check.row("list 2 was looked up in", clerk(x, 2), 0, 5, 60, 0, 1);
-        Check.row("the empty list too", clerk(x, 3), 0, 0, 0, 0, 1);
+        Check.row("list 0 has read", Answers.clerk(x, 0), 1, 80, 80, 1, 0);
+        Check.row("list 2 was looked up in", Answers.clerk(x, 2), 0, 5, 60, 0, 1);
+        Check.row("the empty list too", Answers.clerk(x, 3), 0, 0, 0, 0, 1);
         x.step(1);
-        Check.row("list 0 was looked up in", clerk(x, 0), 1, 80, 80, 1, 1);
-        Check.row("list 2 has read", clerk(x, 2), 1, 50, 50, 1, 1);
+        Check.row("list 0 was looked up in", Answers.clerk(x, 0), 1, 80, 80, 1, 1);
+        Check.row("list 2 has read", Answers.clerk(x, 2), 1, 50, 50, 1, 1);
     }
 
     private static void clerkUnknown() {
@@ -363,14 +355,6 @@ final class TellBoundariesTest {
         seenNone();
     }
 
-    private static int[] seen(BribedClerks x, int document) {
-        int[] answers = new int[5];
-        for (int what = 0; what < 5; what++) {
-            answers[what] = x.seen(document, what);
-        }
-        return answers;
-    }
-
     private static void seenNumbers() {
         Place.in("Promise 23", "2 for the lists of the question in which its score is known (as bits)");
         BribedClerks x = office();
@@ -378,14 +362,14 @@ final class TellBoundariesTest {
         x.weight(5, 1);
         x.begin(0, false);
         x.step(1);
-        Check.row("list 0, and the empty one", seen(x, 1), 90, 90 + 120 + 7, 1 + 8, 0, 0);
+        Check.row("list 0, and the empty one", Answers.seen(x, 1), 90, 90 + 120 + 7, 1 + 8, 0, 0);
         x.step(2);
-        Check.row("list 5 too", seen(x, 1), 97, 97 + 100, 1 + 8 + 32, 1, 0);
-        Check.row("document 3", seen(x, 3), 120, 120 + 80, 4 + 8 + 32, 0, 1);
+        Check.row("list 5 too", Answers.seen(x, 1), 97, 97 + 100, 1 + 8 + 32, 1, 0);
+        Check.row("document 3", Answers.seen(x, 3), 120, 120 + 80, 4 + 8 + 32, 0, 1);
         x.end();
         x.begin(0, true);
         x.step(1);
-        Check.row("all of the question, looked up", seen(x, 1), 97, 97, 1 + 4 + 8 + 32, 0, 0);
+        Check.row("all of the question, looked up", Answers.seen(x, 1), 97, 97, 1 + 4 + 8 + 32, 0, 0);
     }
 
     private static void seenFrom0() {
@@ -520,14 +504,6 @@ final class TellBoundariesTest {
         readingNotPossible();
     }
 
-    private static int[] reading(BribedClerks x) {
-        int[] answers = new int[13];
-        for (int what = 0; what < 13; what++) {
-            answers[what] = x.reading(what);
-        }
-        return answers;
-    }
-
     private static void readingNumbers() {
         Place.in("Promise 25", "0 for the steps that were done, 1 for wasted ones, 2 for look-ups");
         BribedClerks x = office();
@@ -537,13 +513,13 @@ final class TellBoundariesTest {
         x.bribe(3, 500);
         x.delete(3);
         x.begin(0, true);
-        Check.row("before the first step", reading(x), 0, 0, 0, 0, 0, 0, 0, 0, 60, 0, 0, 0, 2);
+        Check.row("before the first step", Answers.reading(x), 0, 0, 0, 0, 0, 0, 0, 0, 60, 0, 0, 0, 2);
         x.step(1);
-        Check.row("one seen", reading(x), 1, 0, 2, 7, 1, 1, 0, 2, 80, 90, 1, 0, 1);
+        Check.row("one seen", Answers.reading(x), 1, 0, 2, 7, 1, 1, 0, 2, 80, 90, 1, 0, 1);
         x.step(1);
-        Check.row("one wasted", reading(x), 2, 1, 2, 8, 1, 1, 0, 0, 80 + 100, 90, 2, 0, 0);
+        Check.row("one wasted", Answers.reading(x), 2, 1, 2, 8, 1, 1, 0, 0, 80 + 100, 90, 2, 0, 0);
         x.step(1);
-        Check.row("two seen", reading(x), 3, 1, 4, 15, 2, 2, 0, 2, 70 + 100, 90, 2, 0, 0);
+        Check.row("two seen", Answers.reading(x), 3, 1, 4, 15, 2, 2, 0, 2, 70 + 100, 90, 2, 0, 0);
     }
 
     private static void readingCost() {
@@ -706,10 +682,10 @@ final class TellBoundariesTest {
         x.bribe(0, 5);
         x.begin(0, false);
         x.step(3);
-        int[] before = reading(x);
+        int[] before = Answers.reading(x);
         Check.due("in a reading, from its beginning", x.trial(0, false, 0), 5);
         Check.due("caught anew", x.trial(0, false, 3), 1);
-        Check.row("the reading stays", reading(x), before);
+        Check.row("the reading stays", Answers.reading(x), before);
         Check.row("begun, caught in all, states", new int[] {x.count(6), x.count(7), x.count(8)}, 1, 1, 4);
         x.end();
         Check.due("the same without one", x.trial(0, false, 0), 5);
@@ -733,24 +709,16 @@ final class TellBoundariesTest {
         x.weight(0, 1);
         x.weight(1, 1);
         x.want(1);
-        Check.row("honest", trial(x, false), 4, 4, 0, 0);
-        Check.row("honest, looking up", trial(x, true), 3, 3 + 9, 0, 0);
+        Check.row("honest", Answers.trial(x, 0, false), 4, 4, 0, 0);
+        Check.row("honest, looking up", Answers.trial(x, 0, true), 3, 3 + 9, 0, 0);
         x.bribe(0, 500);
         x.bribe(1, 500);
         x.bribe(2, 500);
-        Check.row("bribed", trial(x, false), 1, 1, 1, 1);
-        Check.row("bribed, looking up", trial(x, true), 1, 4, 1, 1);
+        Check.row("bribed", Answers.trial(x, 0, false), 1, 1, 1, 1);
+        Check.row("bribed, looking up", Answers.trial(x, 0, true), 1, 4, 1, 1);
         x.want(3);
-        Check.row("bribed, three wanted", trial(x, true), 3, 12, 0, 2);
+        Check.row("bribed, three wanted", Answers.trial(x, 0, true), 3, 12, 0, 2);
         Check.each("-1 and 4", BAD_VALUE, x.trial(0, false, -1), x.trial(0, false, 4));
-    }
-
-    private static int[] trial(BribedClerks x, boolean looksUp) {
-        int[] answers = new int[4];
-        for (int what = 0; what < 4; what++) {
-            answers[what] = x.trial(0, looksUp, what);
-        }
-        return answers;
     }
 
     private static void trialBadValue() {
