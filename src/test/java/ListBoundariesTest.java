@@ -474,7 +474,8 @@ final class ListBoundariesTest {
     private static void deleteUnknown() {
         Place.in("Promise 4", "UNKNOWN");
         BribedClerks x = reading();
-        Check.each("ahead of a reading", UNKNOWN, x.delete(-1), x.delete(60), x.delete(LEAST), x.delete(MOST));
+        Check.each("ahead of a reading", UNKNOWN,
+            x.delete(-1), x.delete(60), x.delete(LEAST), x.delete(MOST));
         x.end();
         Check.each("without a reading", UNKNOWN, x.delete(-1), x.delete(60), x.delete(64), x.delete(-64));
         Check.due("none is deleted", x.count(3), 0);

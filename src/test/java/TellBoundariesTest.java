@@ -160,7 +160,8 @@ final class TellBoundariesTest {
         Place.in("Promise 19", "NONE if there are not so many entries");
         BribedClerks x = office();
         Check.due("the last one", x.entry(0, 2, 0), 3);
-        Check.each("behind it", NONE, x.entry(0, 3, 0), x.entry(0, 3, 1), x.entry(0, 40, 0), x.entry(0, MOST, 1));
+        Check.each("behind it", NONE,
+            x.entry(0, 3, 0), x.entry(0, 3, 1), x.entry(0, 40, 0), x.entry(0, MOST, 1));
         Check.each("of an empty list", NONE, x.entry(5, 0, 0), x.entry(5, 0, 1));
         x.drop(0, 3);
         Check.due("of a list with one less", x.entry(0, 2, 0), NONE);
@@ -705,7 +706,8 @@ final class TellBoundariesTest {
 
     private static void trialWhat() {
         Place.in("Promise 26", "`what`: 0 for its steps until it is over, 1 for its cost");
-        BribedClerks x = Check.office(new int[][] {{0, 1, 100}, {0, 3, 80}, {1, 2, 99}, {1, 3, 80}, {2, 4, 1}});
+        BribedClerks x = Check.office(new int[][] {
+            {0, 1, 100}, {0, 3, 80}, {1, 2, 99}, {1, 3, 80}, {2, 4, 1}});
         x.weight(0, 1);
         x.weight(1, 1);
         x.want(1);
@@ -847,7 +849,8 @@ final class TellBoundariesTest {
     }
 
     private static void countOfReadings() {
-        Place.in("Promise 28", "5 for whether a reading is on (1, otherwise 0), 6 for readings that were begun");
+        Place.in("Promise 28",
+            "5 for whether a reading is on (1, otherwise 0), 6 for readings that were begun");
         BribedClerks x = office();
         x.bribe(0, 1);
         x.bribe(2, 1);

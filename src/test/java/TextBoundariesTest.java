@@ -172,7 +172,8 @@ final class TextBoundariesTest {
 
     private static void endsTooEarly() {
         Place.in("TEXTS", "or the length of the text if it ends too early");
-        String[] right = {"add 1 2 3", "drop 1 2", "weight 1 2", "bribe 1 2", "delete 1", "bring 1", "want 1"};
+        String[] right = {
+            "add 1 2 3", "drop 1 2", "weight 1 2", "bribe 1 2", "delete 1", "bring 1", "want 1"};
         for (int i = 0; i < right.length; i++) {
             for (int length = WORDS[i].length(); length < right[i].length(); length++) {
                 dueFault(right[i].substring(0, length), length);
