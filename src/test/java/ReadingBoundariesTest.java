@@ -584,11 +584,12 @@ final class ReadingBoundariesTest {
         all.want(2);
         all.begin(0, false);
         Check.due("two of two", all.step(WHOLE), 2);
-        all.end();
-        all.delete(2);
-        all.delete(3);
-        all.begin(0, false);
-        Check.due("one of two, and none is left to be told", all.step(WHOLE), 3);
+        BribedClerks one = office(new int[] {1}, new int[][] {{0, 0, 9}, {0, 2, 7}, {0, 3, 1}});
+        one.want(2);
+        one.delete(2);
+        one.delete(3);
+        one.begin(0, false);
+        Check.due("one of two, and none is left to be told", one.step(WHOLE), 3);
     }
 
     private static void overIfBoundsAreLess() {
