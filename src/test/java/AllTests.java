@@ -19,6 +19,7 @@ final class AllTests {
         ModelTest.run();
         RoomTest.run();
         LanguageTest.run(args[0]);
+        ReadmeTest.run(args[2]);
         if (!Check.allPassed()) {
             System.exit(1);
         }
